@@ -14,6 +14,7 @@ public final class PromisesTest {
         cameTo();
         of();
         statement();
+        shortStatements();
         loops();
         ifs();
         text();
@@ -269,6 +270,39 @@ public final class PromisesTest {
         due.is("not whole, behind what", x.statement(0, 0, 6), BAD);
     }
 
+    /** Each kind of STATEMENT that is one ACT lies at its PLACE and ends behind it. */
+    private static void shortStatements() {
+        StoryDecompile x = with(
+            SAY, 1, 0, 0, TEST, 0, 0, 9, TEST, 0, 0, 1, GO, 0, 0, 9, GO, 0, 0, 1,
+            TEST, 0, 0, 10, GO, 0, 0, 10, SAY, 2, 0, 0, GO, 0, 0, 1, ADD, 0, 1, 0,
+            TEST, 0, 0, 14, SAY, 3, 0, 0, GO, 0, 0, 15, SAY, 9, 0, 0, SAY, 4, 0, 0);
+        int[] kinds = {10, 6, 7, 11, 8, 0};
+        due.is("WHILE", x.statement(0, 1, 0), 4);
+        for (int i = 0; i < kinds.length; i++) {
+            due.is("kind of " + kinds[i], x.statement(0, i + 2, 0), kinds[i]);
+            due.is("begin of " + kinds[i], x.statement(0, i + 2, 1), i + 2);
+            due.is("behind " + kinds[i], x.statement(0, i + 2, 2), i + 3);
+            due.is("in what is " + kinds[i], x.statement(0, i + 2, 3), 1);
+            due.is("inside of " + kinds[i], x.statement(0, i + 2, 5), 0);
+        }
+        due.is("behind the WHILE", x.statement(0, 1, 2), 9);
+        due.is("IF beyond a GO that is no neighbour", x.statement(0, 9, 0), 1);
+        x.alter(0, 13, GO, 0, 0, 15);
+        due.is("IF ELSE", x.statement(0, 9, 0), 2);
+        due.is("whose GO it is", x.told(0, 13, 4), 9);
+        due.is("its first body", x.statement(0, 10, 4), 0);
+        due.is("in its first body: JUMP", x.statement(0, 11, 0), 8);
+        due.is("its second body", x.statement(0, 12, 4), 1);
+        x.alter(0, 1, SAY, 0, 0, 0);
+        due.is("LOOP", x.statement(0, 1, 0), 3);
+        x.alter(0, 1, TEST, 0, 0, 3);
+        due.is("LOOP", x.statement(0, 1, 0), 3);
+        due.is("IF in it", x.statement(0, 2, 0), 1);
+        x.alter(0, 4, TEST, 0, 0, 9);
+        due.is("BREAK IF", x.statement(0, 5, 0), 9);
+        due.is("behind BREAK IF", x.statement(0, 5, 2), 5);
+    }
+
     private static void loops() {
         isText("GO to itself", with(GO, 0, 0, 0), 0, 1, 3, 0);
         isText("TEST to itself", with(TEST, 1, 2, 0), 0, 1, 5, 1, 2, 0);
@@ -291,6 +325,24 @@ public final class PromisesTest {
         isText("a loop in a loop, out of both",
             with(SAY, 1, 0, 0, SAY, 2, 0, 0, GO, 0, 0, 6, TEST, 1, 1, 1, GO, 0, 0, 6, GO, 0, 0, 0), 0,
             1, 3, 3, 0, 0, 1, 0, 5, 1, 1, 2, 0, 0, 2, 0, 8, 6, 6);
+        isText("two jumps back to a place behind others",
+            with(SAY, 5, 0, 0, SAY, 1, 0, 0, GO, 0, 0, 1, TEST, 0, 1, 1), 0,
+            2, 0, 0, 5, 0, 5, 0, 1, 2, 0, 0, 1, 0, 8, 1);
+        isText("BREAK of DO, and the same, if",
+            with(TEST, 1, 3, 3, GO, 0, 0, 3, TEST, 0, 1, 0, SAY, 1, 0, 0), 0,
+            2, 5, 0, 1, 2, 9, 1, 3, 6, 0, 0, 1, 0);
+        isText("a TEST to itself where a DO begins",
+            with(TEST, 0, 0, 0, SAY, 1, 0, 0, TEST, 1, 1, 0), 0,
+            1, 5, 1, 1, 2, 11, 0, 0, 0, 0, 0, 1, 0);
+        isText("a TEST to itself where a LOOP begins",
+            with(TEST, 0, 0, 0, SAY, 1, 0, 0, GO, 0, 0, 0), 0,
+            1, 3, 2, 10, 0, 0, 0, 0, 1, 0);
+        isText("a GO to itself where a DO begins",
+            with(GO, 0, 0, 0, TEST, 1, 1, 0), 0,
+            1, 5, 1, 1, 1, 8, 0);
+        isText("loops that begin behind one another in a loop",
+            with(SAY, 1, 0, 0, SAY, 2, 0, 0, GO, 0, 0, 1, TEST, 0, 0, 0), 0,
+            1, 5, 0, 0, 2, 0, 0, 1, 0, 3, 1, 0, 0, 2, 0);
         isText("a jump back from beyond what is read",
             with(TEST, 0, 0, 3, SAY, 1, 0, 0, SAY, 2, 0, 0, GO, 0, 0, 1), 0,
             2, 1, 0, 0, 2, 0, 0, 1, 0, 0, 0, 2, 0, 8, 1);
@@ -317,8 +369,8 @@ public final class PromisesTest {
             with(TEST, 0, 0, 4, TEST, 1, 0, 3, GO, 0, 0, 5, SAY, 1, 0, 0, SAY, 2, 0, 0), 0,
             2, 1, 0, 0, 2, 1, 1, 0, 1, 8, 5, 0, 0, 1, 0, 0, 0, 2, 0);
         isText("a TEST beyond j: JUMP IF",
-            with(TEST, 0, 0, 2, TEST, 1, 4, 3, SAY, 1, 0, 0), 0,
-            2, 1, 0, 0, 1, 11, 1, 4, 3, 0, 0, 1, 0);
+            with(TEST, 0, 0, 3, TEST, 1, 4, 4, SAY, 2, 0, 0, SAY, 1, 0, 0), 0,
+            2, 1, 0, 0, 2, 11, 1, 4, 4, 0, 0, 2, 0, 0, 0, 1, 0);
         isText("ELSE in ELSE",
             with(TEST, 0, 0, 3, SAY, 1, 0, 0, GO, 0, 0, 7, TEST, 1, 0, 6, SAY, 2, 0, 0, GO, 0, 0, 7, SAY, 3, 0, 0), 0,
             1, 2, 0, 0, 1, 0, 0, 1, 0, 1, 2, 1, 0, 1, 0, 0, 2, 0, 1, 0, 0, 3, 0);
