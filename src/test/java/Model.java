@@ -342,7 +342,8 @@ final class Model {
         return tape.get(at - 1);
     }
 
-    private int number(int fault, int low, int high) {
+    /** Bounds are longs: Java 17.0.15 was seen to compile a test against all ints wrongly. */
+    private int number(int fault, long low, long high) {
         int v = number();
         if (v < low || v > high) {
             throw new Wrong(fault, at - 1);

@@ -1,11 +1,14 @@
 /** Each promise by hand: ordinary inputs, the edges that the document names, wrong inputs. */
-public final class PromisesTest {
-    private static final int NONE = -1, BAD = -2, NO = -3, FULL = -4;
-    private static final int SAY = 0, ADD = 1, GO = 2, TEST = 3, DONE = 4, CALL = 5;
-    private static final int MIN = Integer.MIN_VALUE, MAX = Integer.MAX_VALUE;
-    private static final Due due = new Due("PromisesTest");
+public final class PromisesTest extends Rows {
+    private PromisesTest() {
+        super("PromisesTest");
+    }
 
     public static void main(String[] args) {
+        new PromisesTest().all();
+    }
+
+    private void all() {
         newObject();
         routine();
         act();
@@ -35,61 +38,7 @@ public final class PromisesTest {
         due.end();
     }
 
-    /** A new object with one ROUTINE of these ACTS, four numbers each. */
-    private static StoryDecompile with(int... acts) {
-        StoryDecompile x = new StoryDecompile();
-        add(x, acts);
-        return x;
-    }
-
-    private static int add(StoryDecompile x, int... acts) {
-        int r = x.routine();
-        for (int i = 0; i < acts.length; i += 4) {
-            x.act(r, acts[i], acts[i + 1], acts[i + 2], acts[i + 3]);
-        }
-        return r;
-    }
-
-    private static void isText(String what, StoryDecompile x, int r, int... words) {
-        due.is(what + ": numbers", x.text(r, NONE), words.length);
-        for (int i = 0; i < words.length; i++) {
-            due.is(what + ": number " + i, x.text(r, i), words[i]);
-        }
-        due.is(what + ": behind", x.text(r, words.length), BAD);
-        x.clear();
-        x.copy(r);
-        int w = x.write();
-        due.is(what + ": written again", x.like(r, w), 1);
-    }
-
-    private static void tape(StoryDecompile x, int... words) {
-        for (int v : words) {
-            x.feed(v);
-        }
-    }
-
-    private static void isFault(String what, int fault, int place, int... words) {
-        StoryDecompile x = new StoryDecompile();
-        tape(x, words);
-        due.is(what, x.write(), -10 - fault);
-        due.is(what + ": place", x.fault(), place);
-        due.is(what + ": the tape is empty", x.clear(), 0);
-        due.is(what + ": no routine more", x.routine(), 0);
-    }
-
-    /** THE TAPE becomes just these ACTS. */
-    private static void isWritten(String what, int[] words, int... acts) {
-        StoryDecompile x = new StoryDecompile();
-        tape(x, words);
-        due.is(what, x.write(), 0);
-        due.is(what + ": no fault", x.fault(), NONE);
-        due.is(what + ": acts", x.of(0, 0), acts.length / 4);
-        for (int i = 0; i < acts.length; i++) {
-            due.is(what + ": act " + i / 4 + " what " + i % 4, x.told(0, i / 4, i % 4), acts[i]);
-        }
-    }
-
-    private static void newObject() {
+    private void newObject() {
         StoryDecompile x = new StoryDecompile();
         due.is("new of", x.of(0, 0), BAD);
         due.is("new told", x.told(0, 0, 0), BAD);
@@ -104,7 +53,7 @@ public final class PromisesTest {
         }
     }
 
-    private static void routine() {
+    private void routine() {
         StoryDecompile x = new StoryDecompile();
         for (int r = 0; r < 12; r++) {
             due.is("routine", x.routine(), r);
@@ -115,7 +64,7 @@ public final class PromisesTest {
         due.is("routine 13 is none", x.of(12, 0), BAD);
     }
 
-    private static void act() {
+    private void act() {
         StoryDecompile x = with();
         int[][] bad = {
             {1, SAY, 0, 0, 0}, {-1, SAY, 0, 0, 0}, {12, SAY, 0, 0, 0}, {0, -1, 0, 0, 0}, {0, 6, 0, 0, 0},
@@ -145,7 +94,7 @@ public final class PromisesTest {
         due.is("60 acts", x.of(0, 0), 60);
     }
 
-    private static void alter() {
+    private void alter() {
         StoryDecompile x = with(SAY, 1, 0, 0, SAY, 2, 0, 0);
         due.is("alter", x.alter(0, 1, TEST, 2, 3, 2), 1);
         due.is("altered kind", x.told(0, 1, 0), TEST);
@@ -169,7 +118,7 @@ public final class PromisesTest {
         due.is("two acts still", x.of(0, 0), 2);
     }
 
-    private static void told() {
+    private void told() {
         // IF ELSE with its GO, then a WHILE with its GO, a LOOP, a DO.
         StoryDecompile x = with(
             TEST, 0, 0, 3, SAY, 1, 0, 0, GO, 0, 0, 4, SAY, 2, 0, 0,
@@ -192,7 +141,7 @@ public final class PromisesTest {
         due.is("told 6, not whole", x.told(0, 0, 6), BAD);
     }
 
-    private static void cameTo() {
+    private void cameTo() {
         StoryDecompile x = with(
             GO, 0, 0, 3, SAY, 1, 0, 0, SAY, 2, 0, 0, TEST, 0, 0, 6, CALL, 0, 0, 0, DONE, 0, 0, 0,
             GO, 0, 0, 2, ADD, 0, 1, 0);
@@ -207,7 +156,7 @@ public final class PromisesTest {
         due.is("no acts, none not come to", with().of(0, 5), 0);
     }
 
-    private static void of() {
+    private void of() {
         StoryDecompile x = with(SAY, 1, 0, 0, TEST, 0, 0, 5, GO, 0, 0, 1, DONE, 0, 0, 0, SAY, 2, 0, 0);
         // SAY, LOOP with JUMP IF 5, DONE, SAY.
         int[] is = {5, 1, 0, 5, 1, 2, 2, 0};
@@ -230,7 +179,7 @@ public final class PromisesTest {
         ofOthers();
     }
 
-    private static void ofOthers() {
+    private void ofOthers() {
         StoryDecompile x = with(CALL, 1, 0, 0, CALL, 1, 0, 0);
         add(x, CALL, 1, 0, 0);
         add(x, GO, 0, 0, 60, CALL, 1, 0, 0);
@@ -245,7 +194,7 @@ public final class PromisesTest {
         due.is("least alike: not whole", x.of(2, 2), 2);
     }
 
-    private static void statement() {
+    private void statement() {
         // LOOP { IF { BREAK } IF ELSE { SAY } { SAY SAY } } SAY
         StoryDecompile x = with(
             TEST, 0, 0, 2, GO, 0, 0, 8, TEST, 1, 1, 5, SAY, 1, 0, 0, GO, 0, 0, 7, SAY, 2, 0, 0, SAY, 3, 0, 0,
@@ -271,7 +220,7 @@ public final class PromisesTest {
     }
 
     /** Each kind of STATEMENT that is one ACT lies at its PLACE and ends behind it. */
-    private static void shortStatements() {
+    private void shortStatements() {
         StoryDecompile x = with(
             SAY, 1, 0, 0, TEST, 0, 0, 9, TEST, 0, 0, 1, GO, 0, 0, 9, GO, 0, 0, 1,
             TEST, 0, 0, 10, GO, 0, 0, 10, SAY, 2, 0, 0, GO, 0, 0, 1, ADD, 0, 1, 0,
@@ -303,7 +252,7 @@ public final class PromisesTest {
         due.is("behind BREAK IF", x.statement(0, 5, 2), 5);
     }
 
-    private static void loops() {
+    private void loops() {
         isText("GO to itself", with(GO, 0, 0, 0), 0, 1, 3, 0);
         isText("TEST to itself", with(TEST, 1, 2, 0), 0, 1, 5, 1, 2, 0);
         isText("WHILE without a body", with(TEST, 0, 1, 2, GO, 0, 0, 0), 0, 1, 4, 0, 1, 0);
@@ -348,7 +297,7 @@ public final class PromisesTest {
             2, 1, 0, 0, 2, 0, 0, 1, 0, 0, 0, 2, 0, 8, 1);
     }
 
-    private static void ifs() {
+    private void ifs() {
         isText("IF to the end", with(TEST, 0, 2, 2, SAY, 1, 0, 0), 0, 1, 1, 0, 2, 1, 0, 0, 1, 0);
         isText("IF without a body", with(TEST, 0, 3, 1), 0, 1, 1, 0, 3, 0);
         isText("the GO ahead is the TEST's own neighbour",
@@ -376,7 +325,7 @@ public final class PromisesTest {
             1, 2, 0, 0, 1, 0, 0, 1, 0, 1, 2, 1, 0, 1, 0, 0, 2, 0, 1, 0, 0, 3, 0);
     }
 
-    private static void text() {
+    private void text() {
         isText("none", with(), 0, 0);
         isText("acts", with(SAY, MIN, 0, 0, ADD, 3, MAX, 0, DONE, 0, 0, 0, CALL, 11, 0, 0), 0,
             4, 0, 0, MIN, 0, 0, 1, 3, MAX, 0, 4, 0, 0, 0, 5, 11, 0);
@@ -393,7 +342,7 @@ public final class PromisesTest {
         due.is("whole by an act more", x.text(0, NONE), 11);
     }
 
-    private static void feed() {
+    private void feed() {
         StoryDecompile x = new StoryDecompile();
         for (int i = 1; i <= 300; i++) {
             due.is("feed", x.feed(-i), i);
@@ -403,7 +352,7 @@ public final class PromisesTest {
         due.is("feed anew", x.feed(1), 1);
     }
 
-    private static void copy() {
+    private void copy() {
         StoryDecompile x = with(SAY, 1, 0, 0, SAY, 2, 0, 0);
         due.is("copy", x.copy(0), 9);
         due.is("copy behind", x.copy(0), 18);
@@ -426,7 +375,7 @@ public final class PromisesTest {
         due.is("nothing came", x.clear(), 0);
     }
 
-    private static void write() {
+    private void write() {
         isWritten("nothing", new int[] {0});
         isWritten("LOOP", new int[] {1, 3, 3, 6, 7, 0, 0, 5, 0}, GO, 0, 0, 4, GO, 0, 0, 0, SAY, 5, 0, 0, GO, 0, 0, 0);
         isWritten("DO", new int[] {2, 0, 4, 0, 0, 5, 3, 5, 3, 6, 7, 0, 1, 0, -1},
@@ -452,7 +401,7 @@ public final class PromisesTest {
         due.is("the tape stays", x.clear(), 1);
     }
 
-    private static void writeFaults() {
+    private void writeFaults() {
         isFault("1 empty", 1, 0);
         isFault("1 no statement", 1, 1, 1);
         isFault("1 a huge how many", 1, 3, MAX, 8, 0);
@@ -491,7 +440,7 @@ public final class PromisesTest {
         isFault("6 JUMP IF", 6, 4, 1, 11, 0, 0, MIN);
     }
 
-    private static void lateFaults() {
+    private void lateFaults() {
         isFault("7", 7, 1, 0, 0);
         isFault("7 ahead of 9", 7, 3, 1, 8, 2, 0);
         isFault("9", 9, 3, 1, 8, 2);
@@ -531,7 +480,7 @@ public final class PromisesTest {
     }
 
     /** The place that fault() tells stays until another write() has a FAULT. */
-    private static void faultPlace() {
+    private void faultPlace() {
         StoryDecompile x = new StoryDecompile();
         tape(x, 1, 12);
         due.is("write", x.write(), -12);
@@ -543,7 +492,7 @@ public final class PromisesTest {
         due.is("fault of an empty tape", x.fault(), 0);
     }
 
-    private static void clear() {
+    private void clear() {
         StoryDecompile x = new StoryDecompile();
         tape(x, 5, 6, 7);
         due.is("clear", x.clear(), 3);
@@ -552,7 +501,7 @@ public final class PromisesTest {
         due.is("write what came later alone", x.write(), 0);
     }
 
-    private static void like() {
+    private void like() {
         StoryDecompile x = with(TEST, 1, 2, 1, ADD, 1, 5, 0);
         add(x, TEST, 1, 2, 1, ADD, 1, 5, 0);
         due.is("alike", x.like(0, 1), 1);
@@ -577,7 +526,7 @@ public final class PromisesTest {
         due.is("not whole, alike", y.like(0, 1), 1);
     }
 
-    private static void set() {
+    private void set() {
         StoryDecompile x = with(ADD, 0, 1, 0);
         due.is("set", x.set(0, MAX), 0);
         due.is("run", x.run(0, 9), 0);
@@ -591,7 +540,7 @@ public final class PromisesTest {
         due.is("the run's registers stay", x.ran(7), 0);
     }
 
-    private static void run() {
+    private void run() {
         int[] values = {-3, 0, 3};
         boolean[][] jumps = {
             {false, true, false}, {true, false, true}, {true, false, false},
@@ -623,7 +572,7 @@ public final class PromisesTest {
         due.is("refusals leave the latest run", y.ran(0), 4);
     }
 
-    private static void runEnds() {
+    private void runEnds() {
         due.is("nothing to do, no steps", with().run(0, 0), 0);
         StoryDecompile x = with(SAY, 1, 0, 0);
         due.is("no step", x.run(0, 0), 1);
@@ -662,7 +611,7 @@ public final class PromisesTest {
     }
 
     /** ROUTINES that call the next one, the last being without ACTS. */
-    private static void chain(int links, int end) {
+    private void chain(int links, int end) {
         StoryDecompile x = new StoryDecompile();
         for (int r = 0; r < links; r++) {
             add(x, CALL, r + 1, 0, 0);
@@ -671,7 +620,7 @@ public final class PromisesTest {
         due.is("chain of " + links, x.run(0, 100), end);
     }
 
-    private static void ran() {
+    private void ran() {
         StoryDecompile x = with(ADD, 0, 5, 0, ADD, 3, -6, 0);
         x.set(1, 8);
         for (int what : new int[] {0, 1, 2, 4, 5, 6, 7}) {
@@ -688,7 +637,7 @@ public final class PromisesTest {
         due.is("ran 3 before any", with().ran(3), BAD);
     }
 
-    private static void out() {
+    private void out() {
         StoryDecompile x = with(SAY, BAD, 0, 0, SAY, MAX, 0, 0);
         due.is("before any", x.out(0), BAD);
         x.run(0, 10);
@@ -701,7 +650,7 @@ public final class PromisesTest {
     }
 
     /** 61 BODIES in one another are the most that 60 ACTS can have, and THE TAPE may. */
-    private static void deepest() {
+    private void deepest() {
         StoryDecompile x = new StoryDecompile();
         x.routine();
         for (int i = 0; i < 60; i++) {
@@ -722,7 +671,7 @@ public final class PromisesTest {
     }
 
     /** LOOPS in one another, and then how many STATEMENTS the innermost has, if that is told. */
-    private static void nested(int loops, int answer, int place, int... last) {
+    private void nested(int loops, int answer, int place, int... last) {
         StoryDecompile x = new StoryDecompile();
         for (int i = 0; i < loops; i++) {
             tape(x, 1, 3);
