@@ -502,6 +502,8 @@ public final class BoundaryPromisesTest extends Rows {
         due.is("none of 60 ACTS", most.of(0, 7), 0);
         most.alter(0, 59, CALL, 0, 0, 0);
         due.is("the last of 60 ACTS", most.of(0, 7), 1);
+        add(most, CALL, 0, 0, 0, GO, 0, 0, 3);
+        due.is("one that is not WHOLE has one, too", most.of(0, 7), 2);
     }
 
     private void p6EachItsOwn() {
@@ -729,6 +731,7 @@ public final class BoundaryPromisesTest extends Rows {
         p11Written();
         p11EmptyThen();
         p11Fault();
+        p11NothingIsLeftOfAFault();
         p11Full();
         p11TheTapeStays();
         p12Latest();
@@ -870,6 +873,27 @@ public final class BoundaryPromisesTest extends Rows {
             due.is("FAULT " + fault, x.write(), -10 - fault);
             due.is("no ROUTINE", x.of(0, 0), BAD);
         }
+    }
+
+    private void p11NothingIsLeftOfAFault() {
+        due.says("Promise 11", "THE TAPE, which is empty then, is a TEXT: it is WRITTEN");
+        StoryDecompile x = new StoryDecompile();
+        tape(x, 1, LOOP, 1, WHILE, 0, 0, 1, 12);
+        due.is("a FAULT in loops", x.write(), -12);
+        tape(x, 1, BREAK);
+        due.is("a BREAK in no loop", x.write(), -15);
+        tape(x, joined(row(1, LOOP, 61), times(61, BREAK)));
+        due.is("too many ACTS", x.write(), -18);
+        tape(x, 1, JUMP, 60);
+        due.is("a c too high", x.write(), -19);
+        tape(x, 1, IF_ELSE, 1, 1, 1, DO, 2, 2, 1, LOOP, -1);
+        due.is("a FAULT in BODIES", x.write(), -13);
+        tape(x, 2, PLAIN, SAY, 5, 0, LOOP, 1, BREAK);
+        due.is("a TEXT", x.write(), 0);
+        due.is("its ACTS", x.of(0, 0), 3);
+        isAct("the first", x, 0, SAY, 5, 0, 0);
+        isAct("the second", x, 1, GO, 0, 0, 3);
+        isAct("the third", x, 2, GO, 0, 0, 1);
     }
 
     private void p11Full() {

@@ -15,6 +15,7 @@ public final class BoundaryRunningTest extends Rows {
         outIsEmptyAtFirst();
         outHas200();
         eachActIsAStep();
+        theActAtWhichItEndsIsAStep();
         end0OverAtOnce();
         end0WithTheLastStep();
         end0OfCallsWithTheLastStep();
@@ -99,6 +100,19 @@ public final class BoundaryRunningTest extends Rows {
         due.is("STEPS of 7", x.ran(0), 7);
         due.is("with 8", x.run(0, 8), 0);
         due.is("STEPS of 8", x.ran(0), 7);
+    }
+
+    private void theActAtWhichItEndsIsAStep() {
+        due.says(RUNNING, "each ACT is a STEP");
+        StoryDecompile none = with(SAY, 1, 0, 0, CALL, 1, 0, 0);
+        due.is("a CALL of none", none.run(0, 9), 2);
+        due.is("STEPS", none.ran(0), 2);
+        StoryDecompile deep = with(CALL, 0, 0, 0);
+        due.is("a ninth CALL", deep.run(0, 9), 3);
+        due.is("STEPS", deep.ran(0), 8);
+        StoryDecompile full = loud(201);
+        due.is("the SAY that finds OUT full", full.run(0, 9999), 4);
+        due.is("STEPS", full.ran(0), 601);
     }
 
     private void end0OverAtOnce() {

@@ -11,27 +11,36 @@ public final class ModelTest {
     private int routines = 0;
     private final int[] lengths = new int[12];
     private boolean odd = false;
+    /** How many calls the real object has had; it is made for CALLS of them. */
+    private int calls = 0;
+    private static final int CALLS = 512;
 
     private ModelTest(long seed) {
         random = new Random(seed);
     }
 
     public static void main(String[] args) {
-        for (int seed = 0; seed < 3000 && !due.anyWrong(); seed++) {
+        for (int seed = 0; seed < 4000 && !due.anyWrong(); seed++) {
             ModelTest test = new ModelTest(seed);
             test.odd = seed % 3 == 0;
             test.mixedCalls();
         }
-        for (int seed = 0; seed < 6000 && !due.anyWrong(); seed++) {
+        for (int seed = 0; seed < 12000 && !due.anyWrong(); seed++) {
             new ModelTest(seed).oneRoutine();
         }
-        for (int seed = 0; seed < 6000 && !due.anyWrong(); seed++) {
+        for (int seed = 0; seed < 12000 && !due.anyWrong(); seed++) {
             new ModelTest(seed).spoiltText();
         }
-        for (int seed = 0; seed < 6000 && !due.anyWrong(); seed++) {
+        for (int seed = 0; seed < 12000 && !due.anyWrong(); seed++) {
             new ModelTest(seed).grownText();
         }
         due.end();
+    }
+
+    /** Whether one call more is within what the document promises. */
+    private boolean may() {
+        calls++;
+        return calls <= CALLS;
     }
 
     private int below(int n) {
@@ -46,6 +55,7 @@ public final class ModelTest {
         int a = kind == 5 ? below(12) : below(4);
         int b = kind == 1 ? below(9) - 4 : below(6);
         int c = below(Math.min(61, near));
+        calls++;
         int i = real.act(r, kind, a, b, c);
         due.is("act", i, model.act(r, kind, a, b, c));
         if (r >= 0 && r < routines && i >= 0) {
@@ -54,12 +64,14 @@ public final class ModelTest {
     }
 
     private void routine() {
+        calls++;
         int r = real.routine();
         due.is("routine", r, model.routine());
         routines = Math.max(routines, r + 1);
     }
 
     private void write() {
+        calls += 3;
         int r = real.write();
         due.is("write", r, model.write());
         due.is("fault", real.fault(), model.fault());
@@ -69,21 +81,26 @@ public final class ModelTest {
         }
     }
 
+    /** Some more than THE TAPE takes, and room for other calls. */
     private void feed(int v) {
+        if (calls >= 320) {
+            return;
+        }
+        calls++;
         due.is("feed", real.feed(v), model.feed(v));
     }
 
-    /** Not above the 512 calls that an object is made for. */
     private void mixedCalls() {
         routine();
         int near = 2 + random.nextInt(25);
-        for (int call = 0; call < 480; call++) {
+        while (calls < CALLS - 3) {
             int r = below(routines);
             int n = r >= 0 && r < routines ? lengths[r] : 3;
             int pick = random.nextInt(40);
             if (pick < 12) {
                 act(r, near);
             } else {
+                calls++;
                 ask(pick, r, n);
             }
         }
@@ -169,18 +186,23 @@ public final class ModelTest {
         due.is("steps as written", real.ran(0), model.ran(0));
     }
 
+    /** Of a long ROUTINE every fifth answer, so that the calls are enough. */
     private void compareTrees(int r) {
-        for (int what = -1; what < 9; what++) {
+        for (int what = -1; what < 9 && may(); what++) {
             due.is("of " + what, real.of(r, what), model.of(r, what));
         }
         int words = model.text(r, -1);
-        for (int i = -1; i <= words; i++) {
+        int n = model.of(r, 0);
+        int stride = n > 15 ? 5 : 1;
+        for (int i = -1 + random.nextInt(stride); i <= words && may(); i += stride) {
             due.is("text " + i, real.text(r, i), model.text(r, i));
         }
-        int n = model.of(r, 0);
-        for (int i = 0; i <= n; i++) {
-            for (int what = 0; what < 6; what++) {
+        for (int q = random.nextInt(stride); q < 12 * (n + 1) && may(); q += stride) {
+            int i = q / 12;
+            int what = q % 6;
+            if (q % 12 < 6) {
                 due.is("told", real.told(r, i, what), model.told(r, i, what));
+            } else {
                 due.is("statement", real.statement(r, i, what), model.statement(r, i, what));
             }
         }
@@ -198,7 +220,7 @@ public final class ModelTest {
         int how = random.nextInt(3);
         for (int i = 0; i < words; i++) {
             if (i != spoilt || how == 0) {
-                feed(real.text(0, i));
+                feed(model.text(0, i));
             }
             if (i == spoilt && how != 1) {
                 feed(random.nextInt(15) - 2);

@@ -364,10 +364,12 @@ public final class PromisesTest extends Rows {
         }
         due.is("copy that just fits", x.copy(0), 300);
         due.is("copy on a full tape", x.copy(0), FULL);
-        x.clear();
-        for (int i = 0; i < 292; i++) {
-            x.feed(0);
-        }
+        copyTooLong();
+    }
+
+    private void copyTooLong() {
+        StoryDecompile x = with(SAY, 1, 0, 0, SAY, 2, 0, 0);
+        tape(x, times(292, 0));
         due.is("copy that is one too long", x.copy(0), FULL);
         due.is("nothing came", x.clear(), 292);
         x.act(0, GO, 0, 0, 9);
