@@ -105,6 +105,9 @@ public final class StoryDecompile {
         if (found == null || what < 0 || what > 7) {
             return BAD;
         }
+        if (what >= 3 && !found.whole) {
+            return NONE;
+        }
         switch (what) {
             case 0:
                 return found.length;
@@ -112,8 +115,16 @@ public final class StoryDecompile {
                 return found.whole ? 1 : 0;
             case 2:
                 return leastAlike(r, found);
+            case 3:
+                return treeOf(r, found).count;
+            case 4:
+                return treeOf(r, found).jumpCount;
+            case 5:
+                return neverMet(found);
+            case 6:
+                return treeOf(r, found).deepest;
             default:
-                return found.whole ? ofWhole(r, found, what) : NONE;
+                return callersOf(r);
         }
     }
 
@@ -280,6 +291,11 @@ public final class StoryDecompile {
         return reach.met[i];
     }
 
+    private int neverMet(Routine found) {
+        reach.explore(found);
+        return found.length - reach.metCount;
+    }
+
     private int leastAlike(int r, Routine found) {
         for (int q = 0; q < r; q++) {
             Routine other = find(q);
@@ -288,22 +304,6 @@ public final class StoryDecompile {
             }
         }
         return r;
-    }
-
-    private int ofWhole(int r, Routine found, int what) {
-        switch (what) {
-            case 3:
-                return treeOf(r, found).count;
-            case 4:
-                return treeOf(r, found).jumpCount;
-            case 5:
-                reach.explore(found);
-                return found.length - reach.metCount;
-            case 6:
-                return treeOf(r, found).deepest;
-            default:
-                return callersOf(r);
-        }
     }
 
     private int callersOf(int r) {
@@ -594,14 +594,10 @@ public final class StoryDecompile {
             if (m != NONE) {
                 return readLoop(k, m);
             }
-            switch (source.kinds[k]) {
-                case TEST:
-                    return readTest(k);
-                case GO:
-                    return readGo(k);
-                default:
-                    return readAct(k);
+            if (!isJump(source.kinds[k])) {
+                return readAct(k);
             }
+            return isIf(k) ? readIf(k) : readLeap(k);
         }
 
         /** Only the innermost BODY can begin at k together with its loop: others begin behind an ACT. */
@@ -629,29 +625,18 @@ public final class StoryDecompile {
             return k;
         }
 
-        private int readTest(int k) {
+        /** A TEST that leads ahead, but not out of the BODY, as long as it leads to none of B, C. */
+        private boolean isIf(int k) {
             int t = source.cs[k];
-            if (t == breaks[depth - 1]) {
-                begin(BREAK_IF, k, k + 1, k);
-                wordTest(k);
-                return k + 1;
-            }
-            if (t == agains[depth - 1]) {
-                begin(AGAIN_IF, k, k + 1, k);
-                wordTest(k);
-                return k + 1;
-            }
-            if (t > k && t <= ends[depth - 1]) {
-                return readIf(k, t);
-            }
-            begin(JUMP_IF, k, k + 1, k);
-            wordTest(k);
-            tree.word(t);
-            tree.jumpCount++;
-            return k + 1;
+            return source.kinds[k] == TEST && t > k && t <= ends[depth - 1] && isNeither(t);
         }
 
-        private int readIf(int k, int t) {
+        private boolean isNeither(int t) {
+            return t != breaks[depth - 1] && t != agains[depth - 1];
+        }
+
+        private int readIf(int k) {
+            int t = source.cs[k];
             int breakTo = breaks[depth - 1];
             int againTo = agains[depth - 1];
             int e = elseEnd(k, t);
@@ -675,18 +660,24 @@ public final class StoryDecompile {
                 return NONE;
             }
             int e = source.cs[last];
-            boolean fits = e > t && e <= ends[depth - 1];
-            return fits && e != breaks[depth - 1] && e != agains[depth - 1] ? e : NONE;
+            return e > t && e <= ends[depth - 1] && isNeither(e) ? e : NONE;
         }
 
-        private int readGo(int k) {
+        /** BREAK, AGAIN, JUMP and the same three, if. */
+        private int readLeap(int k) {
             int t = source.cs[k];
+            boolean tested = source.kinds[k] == TEST;
+            int leap = JUMP;
             if (t == breaks[depth - 1]) {
-                begin(BREAK, k, k + 1, k);
+                leap = BREAK;
             } else if (t == agains[depth - 1]) {
-                begin(AGAIN, k, k + 1, k);
-            } else {
-                begin(JUMP, k, k + 1, k);
+                leap = AGAIN;
+            }
+            begin(tested ? leap - BREAK + BREAK_IF : leap, k, k + 1, k);
+            if (tested) {
+                wordTest(k);
+            }
+            if (leap == JUMP) {
                 tree.word(t);
                 tree.jumpCount++;
             }
